@@ -491,6 +491,14 @@ final class PromiseTest {
         q.fill(1, 0, 0, 16, 1, 1);
     }
 
+    /** A part whose left arm hangs on its first cell from below alone, and a cell of its own between the arms. */
+    private static void cup(int mask) {
+        q.fill(mask, 7, 5, 1, 4, 1);
+        q.fill(mask, 3, 6, 1, 3, 1);
+        q.fill(mask, 3, 8, 5, 1, 1);
+        q.fill(mask, 5, 6, 1, 1, 1);
+    }
+
     private static void label() {
         begin("17 label");
         threeParts();
@@ -505,6 +513,9 @@ final class PromiseTest {
         due("numbered anew", q.label(0, 5, 2), 0);
         q.back();
         due("and as before", q.label(0, 5, 2), 1);
+        cup(3);
+        due("the arm that is come to from below", q.label(3, 3, 6), 0);
+        due("what stands in the cup", q.label(3, 5, 6), 1);
         chequer(2);
         due("the last of 128", q.label(2, 15, 15), 127);
         for (int no : NO_MASK) due("mask " + no, q.label(no, 0, 0), -2);
@@ -525,6 +536,11 @@ final class PromiseTest {
         due("one in the other mask", q.part(1, 1, 0), -2);
         due("its border at the edge", q.part(1, 0, 1), 34);
         due("none in a light mask", q.part(2, 0, 0), -2);
+        cup(2);
+        int[] arms = {10, 22, 3, 5, 7, 8};
+        for (int what = 0; what < 6; what++) due("cup, " + what, q.part(2, 0, what), arms[what]);
+        due("what stands in it", q.part(2, 1, 1), 4);
+        due("no more", q.part(2, 2, 0), -2);
         chequer(3);
         due("the 128th", q.part(3, 127, 4), 15);
         due("no 129th", q.part(3, 128, 4), -2);
