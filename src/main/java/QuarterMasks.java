@@ -237,7 +237,7 @@ public final class QuarterMasks {
     }
 
     public int shown(int mask, int i) {
-        if (!isMask(mask) || i != NONE && !within(i, MOST_SIGNS)) {
+        if (!isMask(mask) || (i != NONE && !within(i, MOST_SIGNS))) {
             return BAD;
         }
         signs.look(masks[mask]);
@@ -551,15 +551,15 @@ public final class QuarterMasks {
         }
 
         boolean isDark(int x, int y) {
-            return x >= 0 && x < SIDE && y >= 0 && y < SIDE && (rows[y] >>> x & 1) != 0;
+            return x >= 0 && x < SIDE && y >= 0 && y < SIDE && ((rows[y] >>> x) & 1) != 0;
         }
 
         void flip(int x, int y) {
-            setRow(y, row(y) ^ 1 << x);
+            setRow(y, row(y) ^ (1 << x));
         }
 
         void paint(int x, int y, int w, int h, int v) {
-            int bits = (1 << w) - 1 << x;
+            int bits = ((1 << w) - 1) << x;
             for (int line = y; line < y + h && line < SIDE; line++) {
                 setRow(line, v == DARK ? row(line) | bits : row(line) & ~bits);
             }
@@ -599,7 +599,7 @@ public final class QuarterMasks {
 
         /** The cells of a row that are neighbours of a dark one. */
         int neighboursInRow(int y) {
-            return (row(y) << 1 | row(y) >>> 1 | row(y - 1) | row(y + 1)) & FULL_ROW;
+            return ((row(y) << 1) | (row(y) >>> 1) | row(y - 1) | row(y + 1)) & FULL_ROW;
         }
 
         int darkCells() {
@@ -640,7 +640,7 @@ public final class QuarterMasks {
         int border() {
             int pairs = 0;
             for (int y = 0; y < SIDE; y++) {
-                pairs += Integer.bitCount(rows[y] & rows[y] << 1);
+                pairs += Integer.bitCount(rows[y] & (rows[y] << 1));
                 pairs += Integer.bitCount(rows[y] & row(y + 1));
             }
             return 4 * darkCells() - 2 * pairs;
@@ -648,7 +648,7 @@ public final class QuarterMasks {
 
         /** LIGHT, DARK or MIXED. */
         int signOfSquare(int x, int y, int side) {
-            int bits = (1 << side) - 1 << x;
+            int bits = ((1 << side) - 1) << x;
             int first = row(y) & bits;
             if (first != 0 && first != bits) {
                 return MIXED;
@@ -688,7 +688,7 @@ public final class QuarterMasks {
                 if ((bits & reached) != 0) {
                     return gap;
                 }
-                reached |= reached << 1 | reached >>> 1;
+                reached |= (reached << 1) | (reached >>> 1);
             }
             return NONE;
         }
