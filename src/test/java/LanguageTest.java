@@ -116,7 +116,7 @@ final class LanguageTest {
         return new long[] {seen.size(), slots};
     }
 
-    /** The room for all calls of a run has 600,000 objects and 7.3 million slots: the calls' own word is in the source. */
+    /** The room for all calls of a run has 600,000 objects and 7.3 million slots, so only the constructor makes any. */
     private static void callsMakeNothing() throws IOException, IllegalAccessException {
         String code = withoutComments(Files.readString(SOURCE));
         CHECK.due("12: new is written in fields' initialisers and in the constructor alone",

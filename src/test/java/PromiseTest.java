@@ -1,4 +1,7 @@
-/** For each promise of the document ordinary calls, its edges and its refusals, with answers worked out by hand. */
+/**
+ * For each promise of the document ordinary calls, its edges and its refusals. The answers are worked out by hand,
+ * but for those of 255 dots and of a new object's digest, which the shared tests tell.
+ */
 final class PromiseTest {
     private static final int LEAST = Integer.MIN_VALUE;
     private static final int MOST = Integer.MAX_VALUE;
