@@ -865,11 +865,12 @@ public final class QuarterMasks {
         private int known = 0;
 
         void keep(int mask, Grid before) {
-            masks[next] = mask;
+            int at = Math.floorMod(next, MOST_CHANGES);
+            masks[at] = mask;
             for (int y = 0; y < SIDE; y++) {
-                rows[next * SIDE + y] = before.row(y);
+                rows[at * SIDE + y] = before.row(y);
             }
-            next = (next + 1) % MOST_CHANGES;
+            next = at + 1;
             known = Math.min(known + 1, MOST_CHANGES);
         }
 
@@ -878,7 +879,7 @@ public final class QuarterMasks {
             if (known == 0) {
                 return NONE;
             }
-            next = (next + MOST_CHANGES - 1) % MOST_CHANGES;
+            next = Math.floorMod(next - 1, MOST_CHANGES);
             known--;
             for (int y = 0; y < SIDE; y++) {
                 into.setRow(y, rows[next * SIDE + y]);

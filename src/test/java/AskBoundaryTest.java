@@ -38,19 +38,6 @@ final class AskBoundaryTest {
         S.end("12", "13", "14", "15", "16", "17", "18", "19", "20");
     }
 
-    /** Every square but a cell is mixed, and no dark cell is a neighbour of another; the first cell is dark. */
-    private static void chequer(QuarterMasks q, int mask) {
-        q.fill(mask, 0, 0, 16, 16, 0);
-        for (int x = 0; x < 16; x += 2) q.fill(mask, x, 0, 1, 1, 1);
-        q.move(mask, 1, 1, 3);
-        q.join(0, mask, 3, mask);
-        for (int down = 2; down < 16; down *= 2) {
-            q.move(mask, 0, down, 3);
-            q.join(0, mask, 3, mask);
-        }
-        q.fill(3, 0, 0, 16, 16, 0);
-    }
-
     private static void cell() {
         QuarterMasks q = S.of("12", "Whether a CELL is dark: 1, 0.");
         int[][] corners = {{0, 0}, {15, 0}, {0, 15}, {15, 15}};
@@ -91,7 +78,7 @@ final class AskBoundaryTest {
         blockIs(q, 1, 7, 15, 0, 8, 8);
         blockIs(q, 1, 15, 7, 8, 0, 8);
         blockIs(q, 1, 7, 7, 0, 0, 8);
-        chequer(q, 2);
+        Sentences.chequer(q, 2);
         blockIs(q, 2, 6, 9, 6, 9, 1);
     }
 
@@ -120,7 +107,7 @@ final class AskBoundaryTest {
         }
         q.over(2, 2);
         S.due("all but a cell: dark ones", q.blocks(2, 1), 12);
-        chequer(q, 0);
+        Sentences.chequer(q, 0);
         for (int what = 0; what < 3; what++) S.due("chequered, " + what, q.blocks(0, what), most[what]);
     }
 
@@ -161,7 +148,7 @@ final class AskBoundaryTest {
         S.due("a quarter", q.shown(0, QuarterMasks.NONE), 5);
         q.fill(0, 15, 15, 1, 1, 0);
         S.due("and a cell", q.shown(0, QuarterMasks.NONE), 17);
-        chequer(q, 1);
+        Sentences.chequer(q, 1);
         S.due("the most", q.shown(1, QuarterMasks.NONE), 341);
     }
 
@@ -173,7 +160,7 @@ final class AskBoundaryTest {
         q.fill(0, 0, 0, 16, 16, 1);
         S.due("dark, the first", q.shown(0, 0), 1);
         S.due("dark, no second", q.shown(0, 1), -1);
-        chequer(q, 1);
+        Sentences.chequer(q, 1);
         S.due("the most, first", q.shown(1, 0), 2);
         S.due("the most, the one before the last", q.shown(1, 339), 0);
         S.due("the most, the last", q.shown(1, 340), 1);
@@ -197,7 +184,7 @@ final class AskBoundaryTest {
         S.due("light", q.all(0, 0), 0);
         q.fill(0, 0, 0, 16, 16, 1);
         S.due("dark", q.all(0, 0), 1);
-        chequer(q, 1);
+        Sentences.chequer(q, 1);
         S.due("the most", q.all(1, 0), 128);
         q.over(1, 1);
         S.due("the most, turned over", q.all(1, 0), 128);
@@ -210,7 +197,7 @@ final class AskBoundaryTest {
         S.due("light", q.all(0, 1), 0);
         q.fill(0, 0, 0, 16, 16, 1);
         S.due("dark", q.all(0, 1), 64);
-        chequer(q, 1);
+        Sentences.chequer(q, 1);
         S.due("the most", q.all(1, 1), 512);
         q.fill(2, 0, 0, 1, 1, 1);
         q.fill(2, 15, 15, 1, 1, 1);
@@ -224,7 +211,7 @@ final class AskBoundaryTest {
         S.due("light", q.all(0, 2), 0);
         q.fill(0, 0, 0, 16, 16, 1);
         S.due("dark", q.all(0, 2), 0);
-        chequer(q, 1);
+        Sentences.chequer(q, 1);
         S.due("the most light cells alone", q.all(1, 2), 98);
         q.fill(2, 0, 0, 3, 3, 1);
         q.fill(2, 1, 1, 1, 1, 0);
@@ -254,7 +241,7 @@ final class AskBoundaryTest {
 
     private static void label() {
         QuarterMasks q = S.of("17", "The PART in which a CELL is;");
-        chequer(q, 0);
+        Sentences.chequer(q, 0);
         S.due("the first", q.label(0, 0, 0), 0);
         S.due("the last of the first row", q.label(0, 14, 0), 7);
         S.due("the first of the next one", q.label(0, 1, 1), 8);
@@ -269,7 +256,7 @@ final class AskBoundaryTest {
     private static void labelNone() {
         QuarterMasks q = S.of("17", "NONE: it is light.");
         S.due("light", q.label(0, 0, 0), -1);
-        chequer(q, 1);
+        Sentences.chequer(q, 1);
         S.due("beside the first", q.label(1, 1, 0), -1);
         S.due("beside the last", q.label(1, 14, 15), -1);
         q.fill(2, 0, 0, 16, 16, 1);
@@ -305,7 +292,7 @@ final class AskBoundaryTest {
         q.fill(1, 7, 3, 1, 4, 1);
         q.fill(1, 4, 5, 9, 1, 1);
         figuresAre(q, 1, 1, 12, 26, 4, 3, 12, 6);
-        chequer(q, 2);
+        Sentences.chequer(q, 2);
         figuresAre(q, 2, 127, 1, 4, 15, 15, 15, 15);
         q.fill(2, 1, 0, 1, 1, 1);
         figuresAre(q, 2, 0, 4, 10, 0, 0, 2, 1);
@@ -317,7 +304,7 @@ final class AskBoundaryTest {
         q.fill(0, 0, 0, 16, 16, 1);
         S.due("one of a dark one", q.part(0, 0, 0), 256);
         S.due("no second", q.part(0, 1, 0), -2);
-        chequer(q, 1);
+        Sentences.chequer(q, 1);
         S.due("128", q.part(1, 127, 0), 1);
         S.due("no 129th", q.part(1, 128, 0), -2);
         q.fill(1, 0, 0, 16, 15, 0);

@@ -5,7 +5,9 @@ import java.lang.reflect.Modifier;
 import java.nio.file.Files;
 import java.nio.file.Path;
 import java.util.ArrayDeque;
+import java.util.ArrayList;
 import java.util.Arrays;
+import java.util.HashMap;
 import java.util.IdentityHashMap;
 import java.util.List;
 import java.util.Map;
@@ -32,6 +34,7 @@ final class LanguageTest {
         face();
         insideClasses();
         words(withoutComments(Files.readString(SOURCE)));
+        depthAndLength(withoutComments(Files.readString(SOURCE)));
         callsMakeNothing();
         CHECK.end("LanguageTest");
     }
@@ -85,10 +88,56 @@ final class LanguageTest {
         }
         CHECK.holds("2: lambda or method reference", !code.contains("->") && !code.contains("::"));
         Matcher dotted = Pattern.compile("\\b([A-Z][a-z]\\w*)\\.(\\w+)").matcher(code);
-        Set<String> library = Set.of("System.arraycopy", "Arrays.fill", "Integer.bitCount", "Math.max", "Math.min", "Math.abs");
+        Set<String> library = Set.of("System.arraycopy", "Arrays.fill", "Integer.bitCount", "Math.max", "Math.min", "Math.abs",
+            "Math.floorMod");
         while (dotted.find()) CHECK.holds("4: the library's " + dotted.group(), library.contains(dotted.group()));
         CHECK.holds("4: one import", code.split("\\bimport\\b").length == 2 && code.contains("import java.util.Arrays;"));
         CHECK.holds("signs 1 to 127", code.chars().allMatch(c -> c > 0 && c < 128));
+    }
+
+    /** The lines of each method by its name; methods of one name, in two classes, are taken as one that does both. */
+    private static Map<String, String> bodies(String code) {
+        Map<String, String> bodies = new HashMap<>();
+        Matcher head = Pattern.compile("(?m)^( +)(?:[\\w\\[\\]]+ )+(\\w+)\\([^()]*\\) \\{$").matcher(code);
+        while (head.find()) {
+            if (head.group().matches("(?s) *(else|return|new|switch|for|if) .*")) continue;
+            int end = code.indexOf("\n" + head.group(1) + "}", head.end());
+            String body = code.substring(head.end(), end);
+            CHECK.holds("11: some sixty lines, " + head.group(2), body.lines().count() <= 60);
+            bodies.merge(head.group(2), body, String::concat);
+        }
+        return bodies;
+    }
+
+    /** How deep the calls go from a method on, itself too; a method that calls itself counts once, as recursion is free. */
+    private static int depth(String name, Map<String, String> bodies, int guard) {
+        int below = 0;
+        Matcher call = Pattern.compile("(?<!Arrays\\.)\\b(\\w+)\\(").matcher(bodies.get(name));
+        while (call.find() && guard > 0) {
+            boolean other = bodies.containsKey(call.group(1)) && !call.group(1).equals(name);
+            if (other) below = Math.max(below, depth(call.group(1), bodies, guard - 1));
+        }
+        return below + 1;
+    }
+
+    private static void depthAndLength(String code) {
+        Map<String, String> bodies = bodies(code);
+        Arrays.stream(QuarterMasks.class.getDeclaredMethods()).map(Method::getName)
+            .forEach(name -> CHECK.holds("the source has a method " + name, bodies.containsKey(name)));
+        for (String name : bodies.keySet()) {
+            int deep = depth(name, bodies, 12);
+            CHECK.holds("11: eight deep, but " + name + " goes " + deep, deep <= 8);
+        }
+        List<Class<?>> classes = new ArrayList<>(List.of(QuarterMasks.class.getDeclaredClasses()));
+        classes.add(QuarterMasks.class);
+        for (Class<?> c : classes) {
+            long fields = Arrays.stream(c.getDeclaredFields()).filter(f -> !Modifier.isStatic(f.getModifiers())).count();
+            CHECK.holds("11: some twenty fields, " + c.getName(), fields <= 20);
+            for (Field f : c.getDeclaredFields()) {
+                boolean constant = Modifier.isFinal(f.getModifiers()) && f.getType().isPrimitive();
+                CHECK.holds("5: a static field, " + f, !Modifier.isStatic(f.getModifiers()) || constant);
+            }
+        }
     }
 
     /** All objects that an object holds, and their fields and elements. */

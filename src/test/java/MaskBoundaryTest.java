@@ -129,24 +129,13 @@ final class MaskBoundaryTest {
         S.refused("all", q -> q.fill(4, -1, 16, 17, -1, 2), -2);
     }
 
-    /** The cells that dots are drawn to, by numbers that do not wrap. */
-    private static int[] lots(long seed, int n) {
-        int[] cells = new int[n];
-        long lot = seed;
-        for (int i = 0; i < n; i++) {
-            lot = Math.floorMod(1103515245L * lot + 12345, 1L << 32);
-            cells[i] = (int) (lot / 65536 % 256);
-        }
-        return cells;
-    }
-
     private static void dotsTimes() {
         QuarterMasks q = S.of("3", "n times (0 to 255)");
         S.due("0 times", q.dots(0, 5, 0), 0);
         S.due("once", q.dots(1, 5, 1), 1);
         int[] want = new int[256];
         int sum = 0;
-        for (int c : lots(5, 255)) want[c] ^= 1;
+        for (int c : Sentences.lots(5, 255)) want[c] ^= 1;
         for (int w : want) sum += w;
         S.due("255 times", q.dots(2, 5, 255), sum);
         for (int c = 0; c < 256; c++) S.due("255 times, cell " + c, q.cell(2, c % 16, c / 16), want[c]);
@@ -157,7 +146,7 @@ final class MaskBoundaryTest {
         S.of("3", "a CELL by LOTS of 256 (its y by 16, and its x)");
         for (int cell : new int[] {0, 1, 15, 16, 31, 128, 240, 254, 255}) {
             int seed = 0;
-            while (lots(seed, 1)[0] != cell) seed++;
+            while (Sentences.lots(seed, 1)[0] != cell) seed++;
             QuarterMasks q = new QuarterMasks();
             S.due("cell " + cell + ", seed " + seed, q.dots(3, seed, 1), 1);
             S.due("cell " + cell + ", seed " + seed + ": it", q.cell(3, cell % 16, cell / 16), 1);
@@ -171,7 +160,7 @@ final class MaskBoundaryTest {
         q.over(0, 0);
         S.due("of a dark mask", q.dots(0, 8, 1), 255);
         S.due("and dark again", q.dots(0, 8, 1), 256);
-        int[] cells = lots(1, 255);
+        int[] cells = Sentences.lots(1, 255);
         int twice = -1;
         for (int i = 0; i < cells.length && twice < 0; i++) for (int j = 0; j < i; j++) if (cells[i] == cells[j]) twice = i;
         S.holds("a cell comes twice among these lots", twice > 0);
@@ -411,23 +400,18 @@ final class MaskBoundaryTest {
         S.due("no change", q.count(6), 0);
     }
 
-    private static void layAll(QuarterMasks q, int s, int form, int... items) {
-        q.sheet(s, form, items.length);
-        for (int i = 0; i < items.length; i++) q.lay(s, form, i, items[i]);
-    }
-
     private static void readFromItem0() {
         S.of("10", "A MASK becomes what the items of a SHEET, from 0 on, tell as SHOWN");
         for (int form = 0; form < 3; form++) {
             QuarterMasks q = new QuarterMasks();
             q.fill(0, 0, 0, 16, 16, 1);
-            layAll(q, 0, form, 0);
+            Sentences.layAll(q, 0, form, 0);
             S.due("light", q.read(0, 0), 1);
             S.due("light: dark cells", q.count(0), 0);
-            layAll(q, 0, form, 1);
+            Sentences.layAll(q, 0, form, 1);
             S.due("dark", q.read(0, 0), 1);
             S.due("dark: dark cells", q.count(0), 256);
-            layAll(q, 0, form, 2, 0, 1, 0, 2, 0, 0, 2, 1, 0, 0, 2, 0, 0, 1, 0, 0);
+            Sentences.layAll(q, 0, form, 2, 0, 1, 0, 2, 0, 0, 2, 1, 0, 0, 2, 0, 0, 1, 0, 0);
             S.due("down to a cell", q.read(0, 0), 17);
             S.due("down to a cell: dark cells", q.count(0), 64 + 4 + 1);
             S.due("quarter 1", q.block(0, 15, 0, 2) + 100 * q.cell(0, 15, 0), 108);
@@ -446,16 +430,16 @@ final class MaskBoundaryTest {
 
     private static void readFourLikeBlocks() {
         QuarterMasks q = S.of("10", "(four like BLOCKS may be told for one)");
-        layAll(q, 0, 0, 2, 1, 1, 1, 1);
+        Sentences.layAll(q, 0, 0, 2, 1, 1, 1, 1);
         S.due("dark ones", q.read(0, 0), 5);
         S.due("are one", q.shown(0, -1) + 10 * q.shown(0, 0), 11);
-        layAll(q, 0, 0, 2, 0, 0, 0, 0);
+        Sentences.layAll(q, 0, 0, 2, 0, 0, 0, 0);
         S.due("light ones", q.read(0, 0), 5);
         S.due("are one", q.shown(0, -1) + 10 * q.shown(0, 0), 1);
-        layAll(q, 0, 0, 2, 2, 2, 2, 1, 1, 1, 1, 1, 1, 1, 1, 1, 1, 1, 1, 1);
+        Sentences.layAll(q, 0, 0, 2, 2, 2, 2, 1, 1, 1, 1, 1, 1, 1, 1, 1, 1, 1, 1, 1);
         S.due("down to cells", q.read(0, 0), 17);
         S.due("are one", q.shown(0, -1) + 10 * q.shown(0, 0), 11);
-        layAll(q, 0, 0, 2, 0, 2, 1, 1, 1, 1, 0, 2, 0, 0, 0, 0);
+        Sentences.layAll(q, 0, 0, 2, 0, 2, 1, 1, 1, 1, 0, 2, 0, 0, 0, 0);
         S.due("in quarters", q.read(0, 0), 13);
         S.due("are one in each", q.shown(0, -1), 5);
         S.due("dark cells", q.count(0), 64);
@@ -463,13 +447,13 @@ final class MaskBoundaryTest {
 
     private static void readNotBehind() {
         QuarterMasks q = S.of("10", "others behind it are not looked at");
-        layAll(q, 0, 2, 1, 7, -1, 2);
+        Sentences.layAll(q, 0, 2, 1, 7, -1, 2);
         S.due("no signs", q.read(0, 0), 1);
         S.due("dark", q.count(0), 256);
-        layAll(q, 1, 1, 2, 0, 0, 0, 1, 2, 2, 2, 2, 2);
+        Sentences.layAll(q, 1, 1, 2, 0, 0, 0, 1, 2, 2, 2, 2, 2);
         S.due("a mixed cell", q.read(0, 1), 5);
         S.due("a quarter", q.count(0), 64);
-        layAll(q, 2, 0, 0, 1);
+        Sentences.layAll(q, 2, 0, 0, 1);
         S.due("another whole one", q.read(0, 2), 1);
         S.due("light", q.count(0), 0);
     }
@@ -506,7 +490,7 @@ final class MaskBoundaryTest {
     private static void isNot(String what, int form, int... items) {
         QuarterMasks q = new QuarterMasks();
         q.dots(1, 3, 40);
-        layAll(q, 0, form, items);
+        Sentences.layAll(q, 0, form, items);
         long digest = q.digest();
         S.due(what, q.read(1, 0), -3);
         S.due(what + " changes nothing", q.digest(), digest);
@@ -536,7 +520,7 @@ final class MaskBoundaryTest {
         isNot("the last of all", 1, 2, 0, 0, 0, 2, 0, 0, 0, 2, 0, 0, 0, 2, 1, 1, 1, 2);
         isNot("the last of all, and four", 1, 2, 0, 0, 0, 2, 0, 0, 0, 2, 0, 0, 0, 2, 1, 1, 1, 2, 1, 1, 1, 1);
         QuarterMasks q = new QuarterMasks();
-        layAll(q, 0, 1, 2, 0, 0, 0, 2, 0, 0, 0, 2, 0, 0, 0, 2, 1, 1, 1, 0);
+        Sentences.layAll(q, 0, 1, 2, 0, 0, 0, 2, 0, 0, 0, 2, 0, 0, 0, 2, 1, 1, 1, 0);
         S.due("two by two cells are mixed", q.read(1, 0), 17);
         S.due("its cells", q.count(1), 3);
     }
@@ -555,10 +539,10 @@ final class MaskBoundaryTest {
         for (int no : new int[] {256, 257, 258}) isNot("the short " + no, 1, no);
         isNot("the int 65537", 2, 65537);
         QuarterMasks q = new QuarterMasks();
-        layAll(q, 0, 0, 257);
+        Sentences.layAll(q, 0, 0, 257);
         S.due("257 is 1 as a byte", q.read(0, 0), 1);
         S.due("dark", q.count(0), 256);
-        layAll(q, 0, 1, 65536);
+        Sentences.layAll(q, 0, 1, 65536);
         S.due("65536 is 0 as a short", q.read(0, 0), 1);
         S.due("light", q.count(0), 0);
     }

@@ -2,8 +2,9 @@ import java.util.Random;
 
 /** Runs of calls by chance (the same ones each time), on QuarterMasks and on PlainMasks: the answers must be alike. */
 final class ModelTest {
-    private static final int RUNS = 160;
-    private static final int CALLS = 512;
+    private static final int RUNS = 400;
+    /** An object is used for 512 calls at most, and a step takes up to 62 of them. */
+    private static final int CALLS = 512 - 62 - 1;
     private static final int[] ODD = {-1, -2, -3, -17, 16, 17, 31, 60, 61, 256, 341,
         Integer.MIN_VALUE, Integer.MAX_VALUE, Integer.MIN_VALUE + 1, 65536, -65536};
 
@@ -12,6 +13,7 @@ final class ModelTest {
     private final int oddEach;
     private QuarterMasks real = new QuarterMasks();
     private PlainMasks plain = new PlainMasks();
+    private int calls = 0;
 
     private ModelTest(int run, Check check) {
         this.chance = new Random(run);
@@ -23,8 +25,8 @@ final class ModelTest {
         Check check = new Check();
         for (int run = 0; run < RUNS && !check.hasWrong(); run++) {
             ModelTest test = new ModelTest(run, check);
-            for (int i = 0; i < CALLS && !check.hasWrong(); i++) {
-                test.callSomething("run " + run + ", call " + i + ": ");
+            while (test.calls < CALLS && !check.hasWrong()) {
+                test.callSomething("run " + run + ", call " + test.calls + ": ");
             }
             check.due("run " + run + ": digest()", test.real.digest(), test.plain.digest());
         }
@@ -48,6 +50,7 @@ final class ModelTest {
     }
 
     private void due(String call, int[] args, long got, long want) {
+        calls++;
         if (got != want) {
             check.due(call + java.util.Arrays.toString(args), got, want);
         } else {

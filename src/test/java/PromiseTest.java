@@ -769,35 +769,11 @@ final class PromiseTest {
         for (int no : new int[] {-1, 9, LEAST, MOST}) due("what " + no, q.count(no), -2);
     }
 
-    /** The document's words on digest() once more, by calls of the public face. */
-    private static long digestByCalls() {
-        long h = 17;
-        for (int what = 0; what < 8; what++) h = 31 * h + q.count(what);
-        for (int m = 0; m < 4; m++) {
-            for (int what = 0; what < 4; what++) h = 31 * h + q.blocks(m, what);
-            for (int what = 0; what < 4; what++) h = 31 * h + q.all(m, what);
-            for (int i = -1; i < 41; i++) h = 31 * h + q.shown(m, i);
-            for (int y = 0; y <= 15; y += 3) {
-                for (int x = 0; x <= 15; x += 5) {
-                    h = 31 * h + q.cell(m, x, y);
-                    h = 31 * h + q.block(m, x, y, 2);
-                    h = 31 * h + q.label(m, x, y);
-                    h = 31 * h + q.near(m, x, y);
-                }
-            }
-            for (int p = 0; p < 4; p++) for (int what = 0; what < 6; what++) h = 31 * h + q.part(m, p, what);
-            for (int b = 0; b < 4; b++) for (int what = 0; what < 4; what++) h = 31 * h + q.both(m, b, what);
-        }
-        return h;
-    }
-
     private static void digest() {
         begin("28 digest");
         due("of a new object", q.digest(), 8530256629424359813L);
-        due("of a new object, by calls", q.digest(), digestByCalls());
         for (int m = 0; m < 4; m++) q.dots(m, 31 * m + 5, 60 * m + 1);
         q.pick(3, q.part(3, 1, 2), q.part(3, 1, 3), 2);
-        due("of dots, by calls", q.digest(), digestByCalls());
         long before = q.digest();
         q.lose(0);
         due("findings are not in it", q.digest(), before);

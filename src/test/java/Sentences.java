@@ -79,12 +79,40 @@ final class Sentences {
         q.fill(2, 6, 6, 1, 1, 1);
         q.fill(3, 9, 1, 1, 1, 0);
         for (int s = 0; s < 3; s++) {
-            q.sheet(s, FORM[s], ITEMS[s].length);
-            for (int i = 0; i < ITEMS[s].length; i++) q.lay(s, FORM[s], i, ITEMS[s][i]);
+            layAll(q, s, FORM[s], ITEMS[s]);
         }
         if (finding == 5) q.sheet(3, 0, -1);
         if (finding == 1) q.lose(3);
         return q;
+    }
+
+    static void layAll(QuarterMasks q, int s, int form, int... items) {
+        q.sheet(s, form, items.length);
+        for (int i = 0; i < items.length; i++) q.lay(s, form, i, items[i]);
+    }
+
+    /** Every square but a cell is mixed, no dark cell is a neighbour of another, the first is dark; mask 3 ends light. */
+    static void chequer(QuarterMasks q, int mask) {
+        q.fill(mask, 0, 0, 16, 16, 0);
+        for (int x = 0; x < 16; x += 2) q.fill(mask, x, 0, 1, 1, 1);
+        q.move(mask, 1, 1, 3);
+        q.join(0, mask, 3, mask);
+        for (int down = 2; down < 16; down *= 2) {
+            q.move(mask, 0, down, 3);
+            q.join(0, mask, 3, mask);
+        }
+        q.fill(3, 0, 0, 16, 16, 0);
+    }
+
+    /** The lots of 256 that a seed gives, by numbers that do not wrap. */
+    static int[] lots(long seed, int n) {
+        int[] cells = new int[n];
+        long lot = seed;
+        for (int i = 0; i < n; i++) {
+            lot = Math.floorMod(1103515245L * lot + 12345, 1L << 32);
+            cells[i] = (int) (lot / 65536 % 256);
+        }
+        return cells;
     }
 
     /** All that can be seen of a busy object but for the latest finding: masks, sheets, then each change undone. */

@@ -53,26 +53,9 @@ final class SheetBoundaryTest {
         S.end("21", "22", "23", "24", "25", "26", "27", "28");
     }
 
-    private static void layAll(QuarterMasks q, int s, int form, int... items) {
-        q.sheet(s, form, items.length);
-        for (int i = 0; i < items.length; i++) q.lay(s, form, i, items[i]);
-    }
-
     private static void itemsAre(QuarterMasks q, String what, int s, int form, int... items) {
         for (int i = 0; i < items.length; i++) S.due(what + ", item " + i, q.get(s, form, i), items[i]);
         S.due(what + ", no more", q.get(s, form, items.length), LEAST);
-    }
-
-    /** Every square but a cell is mixed, and no dark cell is a neighbour of another; mask 3 comes in between. */
-    private static void chequer(QuarterMasks q, int mask) {
-        q.fill(mask, 0, 0, 16, 16, 0);
-        for (int x = 0; x < 16; x += 2) q.fill(mask, x, 0, 1, 1, 1);
-        q.move(mask, 1, 1, 3);
-        q.join(0, mask, 3, mask);
-        for (int down = 2; down < 16; down *= 2) {
-            q.move(mask, 0, down, 3);
-            q.join(0, mask, 3, mask);
-        }
     }
 
     private static void sheetItems() {
@@ -86,7 +69,7 @@ final class SheetBoundaryTest {
             S.due("the last of 60", q.get(form, form, 59), 0);
             S.due("none behind", q.get(form, form, 60), LEAST);
         }
-        layAll(q, 0, 2, 5, 6, 7);
+        Sentences.layAll(q, 0, 2, 5, 6, 7);
         S.due("new, of another form", q.sheet(0, 1, 4), 4);
         itemsAre(q, "new", 0, 1, 0, 0, 0, 0);
         S.due("not of the form that it had", q.lay(0, 2, 0, 1), -13);
@@ -235,7 +218,7 @@ final class SheetBoundaryTest {
 
     private static void getCount8() {
         QuarterMasks q = S.of("24", "(count() 8 tells).");
-        layAll(q, 0, 2, LEAST);
+        Sentences.layAll(q, 0, 2, LEAST);
         S.due("an item that is the least int", q.get(0, 2, 0), LEAST);
         S.due("is no finding", q.count(8), 0);
         q.get(4, 2, 0);
@@ -254,8 +237,8 @@ final class SheetBoundaryTest {
 
     private static void copyItems() {
         QuarterMasks q = S.of("25", "n items of SHEET s, from i on, come to SHEET t");
-        layAll(q, 0, 1, 1, 2, 3);
-        layAll(q, 1, 1, 4, 5, 6, 7);
+        Sentences.layAll(q, 0, 1, 1, 2, 3);
+        Sentences.layAll(q, 1, 1, 4, 5, 6, 7);
         S.due("two", q.copy(0, 1, 1, 1, 2), 1);
         itemsAre(q, "two came", 1, 1, 4, 2, 3, 7);
         itemsAre(q, "they stay", 0, 1, 1, 2, 3);
@@ -273,7 +256,7 @@ final class SheetBoundaryTest {
 
     private static void copyWithin() {
         QuarterMasks q = S.of("25", "(perhaps s, as they were), from j on: 1.");
-        layAll(q, 0, 2, 1, 2, 3, 4, 5);
+        Sentences.layAll(q, 0, 2, 1, 2, 3, 4, 5);
         S.due("one to the right", q.copy(0, 0, 0, 1, 4), 1);
         itemsAre(q, "right", 0, 2, 1, 1, 2, 3, 4);
         S.due("one to the left", q.copy(0, 1, 0, 0, 4), 1);
@@ -322,8 +305,8 @@ final class SheetBoundaryTest {
     /** A copy between two sheets of shorts, of 3 and 5 items. */
     private static void copyIs(int i, int j, int n, int want) {
         QuarterMasks q = new QuarterMasks();
-        layAll(q, 0, 1, 1, 2, 3);
-        layAll(q, 1, 1, 4, 5, 6, 7, 8);
+        Sentences.layAll(q, 0, 1, 1, 2, 3);
+        Sentences.layAll(q, 1, 1, 4, 5, 6, 7, 8);
         String call = "copy from " + i + " to " + j + ", " + n;
         S.due(call, q.copy(0, i, 1, j, n), want);
         S.due(call + ": count(8)", q.count(8), want == 1 ? 0 : 2);
@@ -366,15 +349,15 @@ final class SheetBoundaryTest {
         QuarterMasks q = S.of("26", "Signs of a MASK as SHOWN, from the i-th on (0 to 340), come to a SHEET");
         q.fill(0, 0, 0, 8, 8, 1);
         q.fill(0, 12, 12, 4, 4, 1);
-        layAll(q, 0, 0, 9, 9, 9, 9);
+        Sentences.layAll(q, 0, 0, 9, 9, 9, 9);
         S.due("from 0 on", q.write(0, 0, 0), 4);
         itemsAre(q, "from 0 on", 0, 0, 2, 1, 0, 0);
         S.due("from 4 on", q.write(0, 4, 0), 4);
         itemsAre(q, "from 4 on", 0, 0, 2, 0, 0, 0);
         S.due("from 5 on", q.write(0, 5, 0), 4);
         itemsAre(q, "from 5 on", 0, 0, 0, 0, 0, 1);
-        chequer(q, 1);
-        layAll(q, 1, 2, 9, 9);
+        Sentences.chequer(q, 1);
+        Sentences.layAll(q, 1, 2, 9, 9);
         S.due("from 340 on, of 341", q.write(1, 340, 1), 1);
         itemsAre(q, "from 340 on", 1, 2, 1, 9);
         S.due("from 339 on", q.write(1, 339, 1), 2);
@@ -390,7 +373,7 @@ final class SheetBoundaryTest {
         for (int form = 0; form < 3; form++) {
             QuarterMasks q = new QuarterMasks();
             q.fill(0, 8, 0, 8, 8, 1);
-            layAll(q, 0, form, -1, -1, -1, -1, -1);
+            Sentences.layAll(q, 0, form, -1, -1, -1, -1, -1);
             S.due("form " + form, q.write(0, 0, 0), 5);
             itemsAre(q, "form " + form, 0, form, 2, 0, 1, 0, 0);
         }
@@ -399,7 +382,7 @@ final class SheetBoundaryTest {
     private static void writeAsMany() {
         QuarterMasks q = S.of("26", "from item 0 on, as many as there are items, and signs: how many.");
         q.fill(0, 8, 0, 8, 8, 1);
-        layAll(q, 0, 1, 7, 7, 7, 7, 7, 7, 7);
+        Sentences.layAll(q, 0, 1, 7, 7, 7, 7, 7, 7, 7);
         S.due("fewer signs", q.write(0, 0, 0), 5);
         itemsAre(q, "items behind them stay", 0, 1, 2, 0, 1, 0, 0, 7, 7);
         S.due("the last sign", q.write(0, 4, 0), 1);
@@ -407,7 +390,7 @@ final class SheetBoundaryTest {
         S.due("behind the last sign", q.write(0, 5, 0), 0);
         S.due("far behind it", q.write(0, 340, 0), 0);
         itemsAre(q, "none came", 0, 1, 0, 0, 1, 0, 0, 7, 7);
-        layAll(q, 1, 2, 7, 7, 7);
+        Sentences.layAll(q, 1, 2, 7, 7, 7);
         S.due("fewer items", q.write(0, 0, 1), 3);
         itemsAre(q, "three came", 1, 2, 2, 0, 1);
         q.sheet(2, 0, 5);
@@ -416,7 +399,7 @@ final class SheetBoundaryTest {
         q.sheet(2, 0, 0);
         S.due("no items", q.write(0, 0, 2), 0);
         q.sheet(2, 0, 60);
-        chequer(q, 1);
+        Sentences.chequer(q, 1);
         S.due("60 of 341", q.write(1, 0, 2), 60);
         S.due("60 from 281 on", q.write(1, 281, 2), 60);
         S.due("the last", q.get(2, 0, 59), 1);
@@ -448,7 +431,7 @@ final class SheetBoundaryTest {
         S.due("dark", q.count(4), 4);
         q.fill(2, 15, 15, 1, 1, 0);
         S.due("one less a cell", q.count(4), 16);
-        chequer(q, 0);
+        Sentences.chequer(q, 0);
         for (int m = 1; m < 4; m++) q.join(0, 0, 0, m);
         S.due("the most", q.count(4), 1024);
     }
@@ -458,7 +441,7 @@ final class SheetBoundaryTest {
         S.due("light", q.count(5), 0);
         for (int m = 0; m < 4; m++) q.fill(m, 0, 0, 16, 16, 1);
         S.due("dark", q.count(5), 4);
-        chequer(q, 0);
+        Sentences.chequer(q, 0);
         for (int m = 1; m < 4; m++) q.join(0, 0, 0, m);
         S.due("the most", q.count(5), 512);
         q.fill(3, 0, 0, 16, 16, 0);
@@ -606,7 +589,7 @@ final class SheetBoundaryTest {
         S.due("45 signs", maskOfSigns(45).shown(2, -1), 45);
         digestIs("of the most signs", () -> {
             QuarterMasks q = new QuarterMasks();
-            chequer(q, 1);
+            Sentences.chequer(q, 1);
             return q;
         });
     }

@@ -439,17 +439,6 @@ final class TermsBoundaryTest {
         return weight * changes;
     }
 
-    /** The lots of 256 by numbers that do not wrap. */
-    private static int[] lots(long seed, int n) {
-        int[] cells = new int[n];
-        long lot = seed;
-        for (int i = 0; i < n; i++) {
-            lot = Math.floorMod(1103515245L * lot + 12345, 1L << 32);
-            cells[i] = (int) (lot / 65536 % 256);
-        }
-        return cells;
-    }
-
     private static void seedsWrap() {
         S.of("Terms", "LOTS of m: SEED becomes 1103515245 SEED and 12345, as ints that wrap");
         for (int seed : new int[] {0, 1, 2, -1, -2, LEAST, LEAST + 1, MOST, MOST - 1, 1 << 16, -(1 << 16), 1 << 30}) {
@@ -458,7 +447,7 @@ final class TermsBoundaryTest {
                 q.dots(0, seed, n - 1);
                 q.dots(1, seed, n);
                 q.join(3, 0, 1, 2);
-                int cell = lots(seed, n)[n - 1];
+                int cell = Sentences.lots(seed, n)[n - 1];
                 S.due("seed " + seed + ", lot " + n + " is one cell", q.count(2), 1);
                 S.due("seed " + seed + ", lot " + n, q.cell(2, cell % 16, cell / 16), 1);
             }
