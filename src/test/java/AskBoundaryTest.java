@@ -122,10 +122,9 @@ final class AskBoundaryTest {
             S.due("a block of " + side, q.blocks(1, 3), deep);
         }
         q.fill(2, 0, 0, 1, 1, 1);
-        q.fill(2, 8, 8, 8, 8, 1);
+        q.fill(2, 12, 12, 4, 4, 1);
         S.due("the deepest comes first", q.blocks(2, 3), 4);
-        q.fill(2, 0, 0, 1, 1, 0);
-        q.fill(2, 15, 15, 1, 1, 0);
+        q.turn(2, 2, 2);
         S.due("the deepest comes last", q.blocks(2, 3), 4);
         for (int c = 0; c < 4; c++) q.fill(3, c % 2 * 8, c / 2 * 8, 4, 4, 1);
         S.due("side by side is not within", q.blocks(3, 3), 2);

@@ -531,12 +531,14 @@ final class MaskBoundaryTest {
         for (int form = 0; form < 3; form++) {
             for (int no : new int[] {3, -1, 4, 127, -128}) {
                 isNot("the item " + no, form, no);
+                isNot("the item " + no + ", as if mixed", form, no, 1, 0, 1, 0);
                 isNot("the item " + no + " in a quarter", form, 2, 1, 1, no, 1);
+                isNot("the item " + no + " in a quarter, as if mixed", form, 2, 1, 1, no, 1, 0, 1, 0, 1);
                 isNot("the item " + no + " last", form, 2, 1, 1, 1, no);
             }
         }
-        for (int no : new int[] {256, 257, 258, LEAST, MOST}) isNot("the int " + no, 2, no);
-        for (int no : new int[] {256, 257, 258}) isNot("the short " + no, 1, no);
+        for (int no : new int[] {256, 257, 258, LEAST, MOST}) isNot("the int " + no, 2, no, 1, 0, 1, 0);
+        for (int no : new int[] {256, 257, 258}) isNot("the short " + no, 1, no, 1, 0, 1, 0);
         isNot("the int 65537", 2, 65537);
         QuarterMasks q = new QuarterMasks();
         Sentences.layAll(q, 0, 0, 257);

@@ -321,7 +321,7 @@ final class SheetBoundaryTest {
             {0, -1, 0}, {3, 5, -1}, {-1, 0, 2}, {LEAST, LEAST, LEAST}};
         for (int[] b : below) copyIs(b[0], b[1], b[2], -12);
         int[][] fewer = {{0, 0, 4}, {1, 0, 3}, {2, 0, 2}, {3, 0, 1}, {0, 3, 3}, {0, 5, 1}, {4, 0, 1}, {0, 6, 1}, {0, 0, MOST},
-            {1, 0, MOST}, {0, 1, MOST}, {MOST, 0, 1}, {0, MOST, 1}, {MOST, MOST, MOST}, {MOST, 0, 3}, {0, MOST, 3}};
+            {1, 0, MOST}, {0, 1, MOST}, {1, 1, MOST}, {3, 5, MOST}, {MOST, 0, 1}, {0, MOST, 1}, {MOST, MOST, MOST}, {MOST, 0, 3}, {0, MOST, 3}};
         for (int[] f : fewer) copyIs(f[0], f[1], f[2], -12);
         S.found("within one sheet", q -> q.copy(0, 0, 0, 1, 5), -12, 2);
         S.found("within one sheet, from behind", q -> q.copy(0, 1, 0, 0, 5), -12, 2);

@@ -382,7 +382,7 @@ final class TermsBoundaryTest {
         acts.forEach((name, act) -> {
             QuarterMasks q = Sentences.busy(5);
             q.sheet(3, 0, 60);
-            while (q.count(6) > 20) q.back();
+            for (int i = 0; i < 20; i++) q.back();
             q.fill(2, 0, 0, 16, 16, 0);
             q.fill(2, 6, 6, 1, 1, 1);
             S.taken(name, act.with(q, 2));
@@ -646,7 +646,7 @@ final class TermsBoundaryTest {
         S.found("copy that ends beyond", q -> q.copy(0, 0, 0, 1, 5), -12, 2);
         S.found("write", q -> q.write(3, 0, 3), -11, 1);
         QuarterMasks q = Sentences.busy(5);
-        for (int left = q.back(); left > 0; left--) q.back();
+        for (int i = 0; i < 40; i++) q.back();
         long digest = q.digest();
         S.due("back", q.back(), -3);
         S.due("back changes nothing", q.digest(), digest);
