@@ -14,6 +14,7 @@ final class Sentences {
     static final int LEAST = Integer.MIN_VALUE;
     static final int MOST = Integer.MAX_VALUE;
     private static final Path DOCUMENT = Path.of("../shared/DOC.md");
+    private static final boolean THERE = Files.exists(DOCUMENT);
     /** Of the sheets of a busy object; the last one is lost. */
     private static final int[] FORM = {0, 1, 2, 0};
     private static final int[][] ITEMS = {{2, 1, 0, 1, 0}, {7, -8, 9}, {LEAST, 100000}, {}};
@@ -26,9 +27,10 @@ final class Sentences {
 
     Sentences(String name) {
         this.name = name;
-        for (String part : documentText().split("(?m)^## ")) {
+        for (String part : documentText().split("(?m)^(?=## )")) {
+            if (!part.startsWith("## ")) continue;
             int end = part.indexOf('\n');
-            String heading = part.substring(0, end).replaceAll("^Promise (\\d+):.*", "$1").strip();
+            String heading = part.substring(3, end).replaceAll("^Promise (\\d+):.*", "$1").strip();
             // Neither a promise's signature nor what is a heading in the interface is a sentence.
             String text = part.substring(end).replaceAll("(?m)^`.*?`: |^Ahead of .*---- [^:\n]*(: |$)|^```.*$", "");
             sections.put(heading, text.replaceAll("\\s+", " "));
@@ -36,7 +38,12 @@ final class Sentences {
         sections.forEach((heading, text) -> quoted.put(heading, new boolean[text.length()]));
     }
 
+    /** Where there is no document, its words can't be looked for; what is due can be tested there too. */
     private static String documentText() {
+        if (!THERE) {
+            System.out.println("there is no " + DOCUMENT + ": the tests' sentences are not compared with it");
+            return "";
+        }
         try {
             return Files.readString(DOCUMENT);
         } catch (IOException e) {
@@ -47,6 +54,7 @@ final class Sentences {
     /** Begins the test of a sentence of a section (a promise's number, or a heading). */
     QuarterMasks of(String section, String words) {
         sentence = section + " \"" + words + "\": ";
+        if (!THERE) return new QuarterMasks();
         String text = sections.getOrDefault(section, "");
         int at = text.indexOf(words);
         check.holds(sentence + "these words stand in the document", at >= 0);
@@ -147,7 +155,7 @@ final class Sentences {
 
     /** The words of these sections that no test has named are told, and count as wrong. */
     void end(String... covered) {
-        for (String section : covered) {
+        for (String section : THERE ? covered : new String[0]) {
             String text = sections.getOrDefault(section, "");
             check.holds(section + " is a section of the document", !text.isEmpty());
             StringBuilder left = new StringBuilder();
