@@ -43,7 +43,9 @@ final class AskBoundaryTest {
         int[][] corners = {{0, 0}, {15, 0}, {0, 15}, {15, 15}};
         for (int m = 0; m < 4; m++) q.fill(m, corners[m][0], corners[m][1], 1, 1, 1);
         for (int m = 0; m < 4; m++) {
-            for (int c = 0; c < 4; c++) S.due("mask " + m + ", corner " + c, q.cell(m, corners[c][0], corners[c][1]), m == c ? 1 : 0);
+            for (int c = 0; c < 4; c++) {
+                S.due("mask " + m + ", corner " + c, q.cell(m, corners[c][0], corners[c][1]), m == c ? 1 : 0);
+            }
         }
     }
 
@@ -63,7 +65,8 @@ final class AskBoundaryTest {
     }
 
     private static void block() {
-        QuarterMasks q = S.of("13", "Of the BLOCK in which a CELL is the least x (what = 0), least y (1), how many CELLS a side has (2).");
+        QuarterMasks q = S.of("13",
+            "Of the BLOCK in which a CELL is the least x (what = 0), least y (1), how many CELLS a side has (2).");
         blockIs(q, 0, 0, 0, 0, 0, 16);
         blockIs(q, 0, 15, 15, 0, 0, 16);
         q.fill(0, 0, 0, 16, 16, 1);
@@ -275,11 +278,14 @@ final class AskBoundaryTest {
     }
 
     private static void figuresAre(QuarterMasks q, int mask, int part, int... figures) {
-        for (int what = 0; what < 6; what++) S.due("part " + part + " of " + mask + ", " + what, q.part(mask, part, what), figures[what]);
+        for (int what = 0; what < 6; what++) {
+            S.due("part " + part + " of " + mask + ", " + what, q.part(mask, part, what), figures[what]);
+        }
     }
 
     private static void partFigures() {
-        QuarterMasks q = S.of("18", "Of a PART how many CELLS (what = 0), BORDER (1), least x (2), least y (3), greatest x (4), greatest "
+        QuarterMasks q = S.of("18",
+            "Of a PART how many CELLS (what = 0), BORDER (1), least x (2), least y (3), greatest x (4), greatest "
             + "y (5).");
         q.fill(0, 0, 0, 16, 16, 1);
         figuresAre(q, 0, 0, 256, 64, 0, 0, 15, 15);

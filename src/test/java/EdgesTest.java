@@ -50,7 +50,8 @@ final class EdgesTest {
         each("shown", UP_TO_3, new int[] {LEAST, -3, -2, -1, 0, 1, 5, 40, 41, 220, 339, 340, 341, MOST});
         each("all", UP_TO_3, UP_TO_3);
         each("label", UP_TO_3, CELL, CELL);
-        each("part", UP_TO_3, new int[] {LEAST, -1, 0, 1, 4, 5, 25, 127, 128, MOST}, new int[] {LEAST, -1, 0, 1, 2, 3, 4, 5, 6, MOST});
+        each("part", UP_TO_3, new int[] {LEAST, -1, 0, 1, 4, 5, 25, 127, 128, MOST},
+            new int[] {LEAST, -1, 0, 1, 2, 3, 4, 5, 6, MOST});
         each("near", UP_TO_3, CELL, CELL);
         each("both", UP_TO_3, UP_TO_3, UP_TO_3);
         each("count", new int[] {LEAST, -1, 0, 1, 2, 3, 4, 5, 6, 7, 8, 9, MOST});

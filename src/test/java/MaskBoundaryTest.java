@@ -162,7 +162,9 @@ final class MaskBoundaryTest {
         S.due("and dark again", q.dots(0, 8, 1), 256);
         int[] cells = Sentences.lots(1, 255);
         int twice = -1;
-        for (int i = 0; i < cells.length && twice < 0; i++) for (int j = 0; j < i; j++) if (cells[i] == cells[j]) twice = i;
+        for (int i = 0; i < cells.length && twice < 0; i++) {
+            for (int j = 0; j < i; j++) if (cells[i] == cells[j]) twice = i;
+        }
         S.holds("a cell comes twice among these lots", twice > 0);
         q.dots(1, 1, twice);
         S.due("a cell before it comes again", q.cell(1, cells[twice] % 16, cells[twice] / 16), 1);
@@ -180,7 +182,8 @@ final class MaskBoundaryTest {
     }
 
     private static void joinKinds() {
-        QuarterMasks q = S.of("4", "dark where a or b is (kind = 0), where both are (1), where a is and b not (2), where just one is "
+        QuarterMasks q = S.of("4",
+            "dark where a or b is (kind = 0), where both are (1), where a is and b not (2), where just one is "
             + "(3).");
         // Of a and b light, b alone dark, a alone dark, both dark: masks 0 and 1 have a quarter of the rows for each.
         q.fill(0, 0, 8, 16, 8, 1);
@@ -332,7 +335,8 @@ final class MaskBoundaryTest {
     }
 
     private static void band() {
-        QuarterMasks q = S.of("8", "MASK to becomes dark where a CELL is FAR no more than d (0 to 30) from any dark one of a.");
+        QuarterMasks q = S.of("8",
+            "MASK to becomes dark where a CELL is FAR no more than d (0 to 30) from any dark one of a.");
         S.due("0 of a light one", q.band(0, 0, 1), 0);
         S.due("30 of a light one", q.band(0, 30, 1), 0);
         q.fill(0, 8, 7, 1, 1, 1);

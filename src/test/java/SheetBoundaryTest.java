@@ -321,7 +321,8 @@ final class SheetBoundaryTest {
             {0, -1, 0}, {3, 5, -1}, {-1, 0, 2}, {LEAST, LEAST, LEAST}};
         for (int[] b : below) copyIs(b[0], b[1], b[2], -12);
         int[][] fewer = {{0, 0, 4}, {1, 0, 3}, {2, 0, 2}, {3, 0, 1}, {0, 3, 3}, {0, 5, 1}, {4, 0, 1}, {0, 6, 1}, {0, 0, MOST},
-            {1, 0, MOST}, {0, 1, MOST}, {1, 1, MOST}, {3, 5, MOST}, {MOST, 0, 1}, {0, MOST, 1}, {MOST, MOST, MOST}, {MOST, 0, 3}, {0, MOST, 3}};
+            {1, 0, MOST}, {0, 1, MOST}, {1, 1, MOST}, {3, 5, MOST}, {MOST, 0, 1}, {0, MOST, 1}, {MOST, MOST, MOST},
+            {MOST, 0, 3}, {0, MOST, 3}};
         for (int[] f : fewer) copyIs(f[0], f[1], f[2], -12);
         S.found("within one sheet", q -> q.copy(0, 0, 0, 1, 5), -12, 2);
         S.found("within one sheet, from behind", q -> q.copy(0, 1, 0, 0, 5), -12, 2);
@@ -603,8 +604,9 @@ final class SheetBoundaryTest {
     }
 
     private static void digestCells() {
-        S.of("28", "of y 0, 3, 6, 9, 12, 15 and x 0, 5, 10, 15 cell(the MASK, x, y), block(the MASK, x, y, 2), label(the MASK, x, y), "
-            + "near(the MASK, x, y),");
+        S.of("28",
+            "of y 0, 3, 6, 9, 12, 15 and x 0, 5, 10, 15 cell(the MASK, x, y), block(the MASK, x, y, 2), "
+            + "label(the MASK, x, y), near(the MASK, x, y),");
         digestIs("light but for a corner", () -> cellsOf(1, 15, 15));
         digestIs("dark but for a corner", () -> cellsOf(0, 15, 15));
         digestIs("a cell that it names", () -> cellsOf(1, 10, 9));

@@ -150,8 +150,9 @@ final class TermsBoundaryTest {
     }
 
     private static void fourQuarters() {
-        QuarterMasks q = S.of("Terms", "and has four QUARTERS: 0 with the lesser x and y, 1 with the greater x and the lesser y, "
-            + "2 with the lesser x and the greater y, 3 with the greater ones, each a SQUARE");
+        QuarterMasks q = S.of("Terms",
+            "and has four QUARTERS: 0 with the lesser x and y, 1 with the greater x and the lesser y, 2 with the "
+            + "lesser x and the greater y, 3 with the greater ones, each a SQUARE");
         for (int side = 8; side >= 1; side /= 2) {
             int last = 16 - 2 * side;
             for (int quarter = 0; quarter < 4; quarter++) {
@@ -166,8 +167,9 @@ final class TermsBoundaryTest {
     }
 
     private static void shownAsSigns() {
-        QuarterMasks q = S.of("Terms", "A MASK is SHOWN as signs: a light BLOCK 0, a dark one 1, a MIXED SQUARE 2 and then its "
-            + "four QUARTERS, in order.");
+        QuarterMasks q = S.of("Terms",
+            "A MASK is SHOWN as signs: a light BLOCK 0, a dark one 1, a MIXED SQUARE 2 and then its four "
+            + "QUARTERS, in order.");
         signsAre(q, 0, 0);
         q.fill(0, 0, 0, 1, 1, 1);
         q.fill(0, 15, 15, 1, 1, 1);
@@ -205,8 +207,8 @@ final class TermsBoundaryTest {
     }
 
     private static void andSoOn() {
-        QuarterMasks q = S.of("Terms", "A PART of a MASK is a dark CELL and all dark ones that are NEIGHBOURS of it, or of these, "
-            + "and so on");
+        QuarterMasks q = S.of("Terms",
+            "A PART of a MASK is a dark CELL and all dark ones that are NEIGHBOURS of it, or of these, and so on");
         S.due("light: no part", q.all(0, 0), 0);
         for (int y = 0; y < 16; y += 2) q.fill(0, 0, y, 16, 1, 1);
         for (int y = 1; y < 15; y += 2) q.fill(0, y % 4 == 1 ? 15 : 0, y, 1, 1, 1);
@@ -253,8 +255,8 @@ final class TermsBoundaryTest {
     }
 
     private static void borderAlsoAtTheEdge() {
-        QuarterMasks q = S.of("Terms", "Its BORDER is how many sides of its CELLS have no dark CELL on the other side (also at the "
-            + "edge).");
+        QuarterMasks q = S.of("Terms",
+            "Its BORDER is how many sides of its CELLS have no dark CELL on the other side (also at the edge).");
         int[][] places = {{0, 0}, {15, 0}, {0, 15}, {15, 15}, {0, 7}, {15, 7}, {7, 0}, {7, 15}, {7, 7}};
         for (int[] p : places) {
             q.fill(0, 0, 0, 16, 16, 0);
@@ -605,7 +607,8 @@ final class TermsBoundaryTest {
     }
 
     private static void firstThatFits() {
-        S.of("Terms", "Refusals, the first that fits, in the order told at each act: BAD -2 (a number not as told, no such "
+        S.of("Terms",
+            "Refusals, the first that fits, in the order told at each act: BAD -2 (a number not as told, no such "
             + "thing), NULL, NOT -3 (as told), other FINDINGS.");
         S.refused("pick: BAD, NOT", q -> q.pick(0, 0, 0, 4), -2);
         S.refused("pick: NOT", q -> q.pick(0, 0, 0, 3), -3);
