@@ -1,5 +1,6 @@
 import java.io.IOException;
 import java.lang.reflect.Field;
+import java.lang.reflect.InvocationTargetException;
 import java.lang.reflect.Method;
 import java.lang.reflect.Modifier;
 import java.nio.file.Files;
@@ -11,6 +12,7 @@ import java.util.HashMap;
 import java.util.IdentityHashMap;
 import java.util.List;
 import java.util.Map;
+import java.util.Random;
 import java.util.Set;
 import java.util.TreeSet;
 import java.util.regex.Matcher;
@@ -36,6 +38,7 @@ final class LanguageTest {
         words(withoutComments(Files.readString(SOURCE)));
         depthAndLength(withoutComments(Files.readString(SOURCE)));
         callsMakeNothing();
+        neverThrows();
         CHECK.end("LanguageTest");
     }
 
@@ -184,5 +187,35 @@ final class LanguageTest {
         CHECK.due("12: slots held", room(q)[1], before[1]);
         CHECK.holds("12: 512 new objects find room, with " + before[0] + " objects and " + before[1] + " slots each",
             before[0] * 512 < 600_000 && before[1] * 512 < 7_300_000);
+    }
+
+    /** Mostly a number that some call takes, so that calls come far, else one of the odd ones, or any. */
+    private static int anyNumber(Random chance) {
+        int[] odd = {Integer.MIN_VALUE, Integer.MIN_VALUE + 1, -32769, -129, -17, -16, -2, -1, 16, 17, 30, 31, 32, 40, 59,
+            60, 61, 64, 127, 128, 255, 256, 340, 341, 32768, 65536, Integer.MAX_VALUE - 1, Integer.MAX_VALUE};
+        int kind = chance.nextInt(20);
+        if (kind < 17) return chance.nextInt(kind < 14 ? 4 : 16);
+        return kind < 19 ? odd[chance.nextInt(odd.length)] : chance.nextInt();
+    }
+
+    /** Also after an object's 512th call: what it answers then is free, but rule 7 has no end. */
+    private static void neverThrows() throws IllegalAccessException {
+        List<Method> calls = Arrays.stream(QuarterMasks.class.getDeclaredMethods())
+            .filter(m -> Modifier.isPublic(m.getModifiers())).sorted((a, b) -> told(a).compareTo(told(b))).toList();
+        CHECK.due("7: calls of the face", calls.size(), FACE.size());
+        for (int run = 0; run < 20; run++) {
+            Random chance = new Random(run);
+            QuarterMasks q = new QuarterMasks();
+            for (int i = 0; i < 4000; i++) {
+                Method call = calls.get(chance.nextInt(calls.size()));
+                Object[] numbers = new Object[call.getParameterCount()];
+                for (int k = 0; k < numbers.length; k++) numbers[k] = anyNumber(chance);
+                try {
+                    call.invoke(q, numbers);
+                } catch (InvocationTargetException e) {
+                    CHECK.holds("7: " + call.getName() + Arrays.toString(numbers) + " threw " + e.getCause(), false);
+                }
+            }
+        }
     }
 }
